@@ -4,6 +4,7 @@ public final class TapeTest {
         filling();
         cutting();
         order();
+        nothingBehindTheEnd();
         Check.finish();
     }
 
@@ -51,5 +52,24 @@ public final class TapeTest {
         x.feed(0x353B2020, 0x20202020, 0x20202020, 0x20202020, 0x20202020);
         Check.due("copy(1)", x.copy(1), 1);
         Check.due("tells(1, 1, 0)", x.tells(1, 1, 0), 5);
+    }
+
+    private static void nothingBehindTheEnd() {
+        TributeLists x = new TributeLists();
+        Check.tape(x, "town 12:0 1;");
+        x.end(6);
+        Check.due("copy(0) of <town 1>", x.copy(0), -1);
+        Check.due("fault(1): bytes that were cut off are no part of the number", x.fault(1), 6);
+        Check.tape(x, "town 1:0 1;towns");
+        x.end(15);
+        Check.due("copy(0) of <town 1:0 1;town>", x.copy(0), -1);
+        Check.due("fault(1): nor of the word", x.fault(1), 15);
+        Check.tape(x, " ".repeat(292) + "town 123");
+        Check.due("copy(0) of 300 bytes with a number last", x.copy(0), -1);
+        Check.due("fault(0)", x.fault(0), 3);
+        Check.due("fault(1)", x.fault(1), 297);
+        Check.tape(x, " ".repeat(296) + "town");
+        Check.due("copy(0) of 300 bytes with a word last", x.copy(0), -1);
+        Check.due("fault(1)", x.fault(1), 300);
     }
 }
