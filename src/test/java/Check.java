@@ -1,18 +1,47 @@
 /** What every test of the project uses: counts wrong answers and puts texts on the tape. */
 final class Check {
     private static int wrong = 0;
+    private static String sentence = "";
 
     private Check() { }
+
+    /** A call of which one argument is left open. */
+    interface Call {
+        long of(int v);
+    }
+
+    /** From here on wrong answers are told under these words of the document. */
+    static void sentence(String words) {
+        sentence = "[" + words + "] ";
+    }
 
     static void due(String call, long got, long want) {
         if (got != want) {
             wrong++;
-            System.out.println(call + " answered " + got + ", due is " + want);
+            System.out.println(sentence + call + " answered " + got + ", due is " + want);
         }
     }
 
     static void due(String call, boolean got, boolean want) {
         due(call, got ? 1L : 0L, want ? 1L : 0L);
+    }
+
+    /** One and the same answer for each of these values; the name of the call has an * for the value. */
+    static void dueForAll(String call, int[] values, long want, Call asked) {
+        for (int v : values) {
+            due(call.replace("*", String.valueOf(v)), asked.of(v), want);
+        }
+    }
+
+    /**
+     * What lies outside of a bound: the first value at either end, the ends of int, and values that a narrower
+     * number, or a sign that is lost, would take for one inside.
+     */
+    static int[] beyond(int least, int most) {
+        int[] all = {least - 1, most + 1, Integer.MIN_VALUE, Integer.MAX_VALUE, least - 2, most + 2, -most - 1,
+            least + 256, least + 65536, most + 65536, least - 65536, most + (1 << 30), least + Integer.MIN_VALUE,
+            most + Integer.MIN_VALUE};
+        return java.util.Arrays.stream(all).filter(v -> v < least || v > most).distinct().toArray();
     }
 
     static void finish() {
