@@ -9,6 +9,7 @@ public final class AccountsEdgesTest {
         aboveZero();
         asTheCopiesAreThen();
         lastQuarter();
+        lastQuarterOfAll();
         severalInOneCall();
         aheadOfNewDebts();
         ownDebtsAlone();
@@ -164,6 +165,39 @@ public final class AccountsEdgesTest {
         x.days(30);
         account(x, 1, 0, 3, 0, 32, 2);
         Check.due("late(1)", x.late(1), 2 * 1 + 3 * 30);
+    }
+
+    /** A LINE of every other GOOD from the first one on, the same pieces of each. */
+    private static String everyOther(int town, int first, int pieces) {
+        StringBuilder line = new StringBuilder("town ").append(town);
+        for (int g = first; g < 6; g += 2) {
+            line.append(g == first ? ":" : ",").append(g).append(' ').append(pieces);
+        }
+        return line.append(';').toString();
+    }
+
+    private static void lastQuarterOfAll() {
+        Check.sentence("account: the oldest QUARTER of which it owes, of each TOWN and GOOD for itself");
+        TributeLists x = new TributeLists();
+        Check.pass(x, 2879);
+        for (int c = 0; c < 2; c++) {
+            Check.read(x, c, everyOther(7 * c + 1, 1, 4) + everyOther(7 * c + 8, 1, 4));
+        }
+        x.days(1);
+        for (int c = 2; c < 4; c++) {
+            int town = 7 * (c - 2) + 1;
+            Check.read(x, c, everyOther(town, 0, 9) + everyOther(town + 7, 0, 9));
+        }
+        x.days(90);
+        // On DAY 2880 the odd GOODS of TOWNS 1, 8 and 15 came to owe, on 2970 all of theirs.
+        for (int t = 1; t < 16; t++) {
+            for (int g = 0; g < 6; g++) {
+                int owes = t % 7 != 1 ? 0 : g % 2 == 0 ? 9 : 8;
+                int oldest = owes == 0 ? -1 : owes == 9 ? 32 : 31;
+                Check.due("account(" + t + ", " + g + ", 0)", x.account(t, g, 0), owes);
+                Check.due("account(" + t + ", " + g + ", 2)", x.account(t, g, 2), oldest);
+            }
+        }
     }
 
     private static void severalInOneCall() {

@@ -62,7 +62,7 @@ public final class CiRunTest {
         if (STARTED.size() == AT_ONCE) {
             look(STARTED.remove());
         }
-        scratch.start(".ci/run");
+        scratch.start("sh .ci/run");
         STARTED.add(new Case(name, scratch, passes, List.of(runs)));
     }
 

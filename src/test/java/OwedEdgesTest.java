@@ -108,17 +108,17 @@ public final class OwedEdgesTest {
     private static void manyReadings() {
         Check.sentence("OWED: the COPY that was read latest, of as many readings as an object has");
         TributeLists x = copies(5, 6);
-        for (int k = 0; k < 400; k++) {
-            x.copy(2 + k % 3);
+        int read = 2;
+        // Around each of these a number that is too narrow for all readings would begin anew.
+        for (int many : new int[] {128, 256}) {
+            for (; read < many - 4; read++) {
+                x.copy(2 + read % 3);
+            }
+            for (; read < many + 4; read++) {
+                Check.read(x, read % 2, "town 1:0 " + (5 + read % 2) + ";");
+                Check.due("owed behind " + (read + 1) + " readings", x.owed(1, 0), 5 + read % 2);
+            }
         }
-        Check.due("owed", x.owed(1, 0), 6);
-        Check.read(x, 0, "town 1:0 5;");
-        Check.due("owed", x.owed(1, 0), 5);
-        for (int k = 0; k < 40; k++) {
-            x.copy(4);
-        }
-        Check.read(x, 1, "town 1:0 6;");
-        Check.due("owed", x.owed(1, 0), 6);
         Check.due("about(7)", x.about(7), 5);
     }
 

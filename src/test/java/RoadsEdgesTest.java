@@ -12,6 +12,7 @@ public final class RoadsEdgesTest {
         noneByZero();
         leastSum();
         nearestIsNotFirst();
+        throughAnyPlace();
         longest();
         far();
         ofOnePlace();
@@ -148,6 +149,19 @@ public final class RoadsEdgesTest {
         y.road(2, 1, 5);
         Check.due("way(0, 15)", y.way(0, 15), 30);
         Check.due("way(15, 0)", y.way(15, 0), 30);
+    }
+
+    private static void throughAnyPlace() {
+        Check.sentence("WAY: the least sum of days, through any PLACE, the city too");
+        for (int p = 0; p < 16; p++) {
+            TributeLists x = new TributeLists();
+            int a = (p + 1) % 16;
+            int b = (p + 9) % 16;
+            x.road(a, p, 3);
+            x.road(p, b, 4);
+            Check.due("way(" + a + ", " + b + ") through " + p, x.way(a, b), 7);
+            Check.due("way(" + b + ", " + a + ") through " + p, x.way(b, a), 7);
+        }
     }
 
     private static void longest() {
